@@ -10,6 +10,7 @@ public final class HistoryTest {
         done();
         doneTillOneCanNotBe();
         keepAndAgain();
+        againTellsOfEachBundle();
         againOnOpenings();
         slots();
         count();
@@ -159,6 +160,25 @@ public final class HistoryTest {
         DUE.is("bare", x.weight(0), 0);
         DUE.is("keep over it", x.keep(0), 0);
         DUE.is("again(0)", x.again(0), 0);
+    }
+
+    private static void againTellsOfEachBundle() {
+        StrawCoats x = new StrawCoats();
+        x.lay(0, 0, 1, 0, 1);
+        x.keep(0);
+        x.lay(1, 2, 3, 4, 5);
+        x.keep(1);
+        x.again(0);
+        DUE.is("another second one", x.lay(3, 1, 2, 1, 9), 1);
+        int[] other = {3, 1, 2, 1, 9, 18};
+        int[] kept = {1, 2, 3, 4, 5, 15};
+        for (int what = 0; what < 6; what++) {
+            DUE.is("about(1, " + what + ")", x.about(1, what), other[what]);
+        }
+        x.again(1);
+        for (int what = 0; what < 6; what++) {
+            DUE.is("about(1, " + what + ") as it was kept", x.about(1, what), kept[what]);
+        }
     }
 
     private static void againOnOpenings() {

@@ -96,6 +96,8 @@ public final class RoofTest {
         DUE.is("text stays", x.count(5), 2);
         DUE.is("numbers begin anew", x.lay(3, 3, 1, 0, 1), 0);
         DUE.is("nothing else lies", x.weight(0), 0);
+        DUE.is("nothing is left of the old one", x.left(0, 0), 0);
+        DUE.is("all of the new one", x.about(0, 5), 1);
     }
 
     private static void pitch() {
