@@ -756,7 +756,7 @@ public final class StrawCoats {
     private static final class Rain {
         /** Stands for a bundle where a drop is at an opening: places there are told with it. */
         private static final int AT_OPENING = 99;
-        /** Above the longest way: in each row all openings once, and the cell beside the last one. */
+        /** No way is longer: in each of six rows six openings at most and one cell with straw. */
         private static final int MOST_PLACES = 64;
 
         private final Frame frame;
@@ -894,7 +894,7 @@ public final class StrawCoats {
         }
     }
 
-    /** What is only asked: leaks to come, ways to lay a column, offers; on bundles of its own. */
+    /** What is only asked: leaks to come and ways to lay a column, on bundles of its own. */
     private static final class Trial {
         private final Frame frame;
         private final Rain rain;
