@@ -114,6 +114,10 @@ final class LayingSentences {
             strip 0 9 = 9; count 3 = 4; top 0 0 = 3; top 0 3 = NONE; strip 0 1 = 1; top 0 0 = 2; strip 0 9 = 2
             strip 0 9 = 0; weight 0 = 0; top 1 0 = 0; strip 1 9 = 1; count 3 = 0; count 2 = 13
             """);
+        d.again("""
+            roof 2 6 = 12; lay 1 0 1 0 9 = 0; lay 1 5 1 0 9 = 1; lay 0 5 3 0 9 = 2; lay 1 0 1 0 9 = 3; lay 1 5 1 0 9 = 4
+            strip 0 1 = 1; left 1 5 = 9; left 3 0 = 9; weight 0 = 0; weight 1 = 36; strip 1 1 = 1; left 3 0 = 9; left 1 5 = 9
+            """);
         d.says("UNKNOWN;", """
             strip -1 1 = UNKNOWN; strip 4 1 = UNKNOWN; strip 4 0 = UNKNOWN; strip -1 10 = UNKNOWN; strip MAX 1 = UNKNOWN
             strip MIN 1 = UNKNOWN; lay 3 0 1 0 1 = 0; strip 3 1 = 1
