@@ -1,4 +1,5 @@
 import java.io.IOException;
+import java.lang.reflect.Constructor;
 import java.lang.reflect.Field;
 import java.lang.reflect.Method;
 import java.lang.reflect.Modifier;
@@ -16,6 +17,7 @@ public final class LanguageTest {
 
     public static void main(String[] args) throws IOException {
         face();
+        documentFace(Files.readString(Path.of(args[0], "..", "shared", "DOC.md")));
         members();
         source(Files.readString(Path.of(args[0], "src", "main", "java", "StrawCoats.java")));
         DUE.end();
@@ -44,6 +46,34 @@ public final class LanguageTest {
         DUE.holds("constants", constants.isEmpty());
         DUE.holds("final", Modifier.isFinal(StrawCoats.class.getModifiers()));
         DUE.is("constructors", StrawCoats.class.getConstructors().length, 1);
+    }
+
+    /** Each line of the document's face is a member of the class, and no public member stands beside them. */
+    private static void documentFace(String document) {
+        Set<String> due = new TreeSet<>();
+        Matcher lines = Pattern.compile("(?m)^    public (?!static)(.*)\\((.*)\\);$").matcher(document);
+        while (lines.find()) {
+            due.add(lines.group(1) + "(" + lines.group(2).replaceAll(" \\w+(?=,|$)", "").replace(" ", "") + ")");
+        }
+        Set<String> got = new TreeSet<>();
+        for (Method m : StrawCoats.class.getDeclaredMethods()) {
+            if (Modifier.isPublic(m.getModifiers())) {
+                got.add(m.getReturnType() + " " + m.getName() + typesOf(m.getParameterTypes()));
+            }
+        }
+        for (Constructor<?> c : StrawCoats.class.getConstructors()) {
+            got.add(c.getName() + typesOf(c.getParameterTypes()));
+        }
+        DUE.is("lines of the document's face", due.size(), 1 + 38);
+        DUE.holds("the document's face " + due + " is " + got, due.equals(got));
+    }
+
+    private static String typesOf(Class<?>[] types) {
+        StringBuilder all = new StringBuilder();
+        for (Class<?> type : types) {
+            all.append(all.length() == 0 ? "" : ",").append(type);
+        }
+        return "(" + all + ")";
     }
 
     private static void members() {

@@ -4,7 +4,6 @@ final class RoofSentences {
     }
 
     static void tell(Sentences document) {
-        anyCalls(document);
         sizes(document);
         openingsWearPitch(document);
         newObject(document);
@@ -14,13 +13,6 @@ final class RoofSentences {
         wear(document);
         opening(document);
         openingRefused(document);
-    }
-
-    private static void anyCalls(Sentences d) {
-        d.part("What it is");
-        d.says("An object is used for at most 512 calls after it has been made",
-                "lay 0 3 3 0 9 = 0; " + "lay 0 0 4 0 1 = BAD; years 1 = 3; again 0 = LATE; ".repeat(9)
-                + "fault = NONE; ".repeat(483) + "about 0 5 = 0");
     }
 
     private static void sizes(Sentences d) {

@@ -1,5 +1,4 @@
 import java.lang.reflect.InvocationTargetException;
-import java.lang.reflect.Method;
 import java.util.BitSet;
 import java.util.LinkedHashMap;
 import java.util.Map;
@@ -13,9 +12,6 @@ import java.util.regex.Pattern;
  * wipe and as many writes as the text needs.
  */
 final class Sentences {
-    private static final Map<String, Integer> NAMES = Map.of("UNKNOWN", -1, "BAD", -2, "LATE", -3, "FULL", -4,
-            "NONE", -9, "OFF", 100, "MIN", Integer.MIN_VALUE, "MAX", Integer.MAX_VALUE);
-
     private final Due due = new Due("SentencesTest");
     private final Map<String, String> texts = new LinkedHashMap<>();
     private final Map<String, BitSet> quoted = new LinkedHashMap<>();
@@ -44,7 +40,7 @@ final class Sentences {
     }
 
     private static String plain(String text) {
-        return text.replace("```text", " ").replace("```", " ").replaceAll("\\s+", " ").trim();
+        return text.replace("```text", " ").replace("```", " ").replaceAll("======== \\d", " ").replaceAll("\\s+", " ").trim();
     }
 
     /** The part of the document that the next sentences stand in. */
@@ -81,8 +77,8 @@ final class Sentences {
         }
         String[] sides = call.split(" = ");
         String[] bounds = sides[1].split(" \\.\\. ");
-        long last = number(bounds[bounds.length - 1]);
-        for (long want = number(bounds[0]); want <= last; want++) {
+        long last = Told.number(bounds[bounds.length - 1]);
+        for (long want = Told.number(bounds[0]); want <= last; want++) {
             due.is(part + ", " + sentence + ": " + sides[0], answer(x, sides[0].split(" ")), want);
         }
     }
@@ -100,40 +96,15 @@ final class Sentences {
     }
 
     private long answer(StrawCoats x, String[] words) {
-        for (Method m : StrawCoats.class.getMethods()) {
-            if (m.getName().equals(words[0]) && m.getParameterCount() == words.length - 1) {
-                try {
-                    return ((Number) m.invoke(x, arguments(m, words))).longValue();
-                } catch (IllegalAccessException | InvocationTargetException e) {
-                    due.holds(part + ", " + sentence + ": " + String.join(" ", words) + " threw " + e.getCause(), false);
-                    return Long.MIN_VALUE;
-                }
-            }
+        try {
+            return Told.answer(x, words);
+        } catch (InvocationTargetException e) {
+            due.holds(part + ", " + sentence + ": " + String.join(" ", words) + " threw " + e.getCause(), false);
+            return Long.MIN_VALUE;
         }
-        throw new IllegalArgumentException("no such call: " + String.join(" ", words));
     }
 
-    private static Object[] arguments(Method m, String[] words) {
-        Object[] all = new Object[words.length - 1];
-        for (int k = 0; k < all.length; k++) {
-            Class<?> type = m.getParameterTypes()[k];
-            String word = words[k + 1];
-            if (type == boolean.class) {
-                all[k] = Boolean.valueOf(word);
-            } else if (type == long.class) {
-                all[k] = number(word);
-            } else {
-                all[k] = (int) number(word);
-            }
-        }
-        return all;
-    }
-
-    private static long number(String word) {
-        return NAMES.containsKey(word) ? NAMES.get(word) : Long.decode(word);
-    }
-
-    /** Ends the test; a word of the terms or promises that no sentence quotes is a fault as well. */
+    /** Ends the test; a word of these parts that no sentence quotes is a fault as well. */
     void end() {
         for (String name : texts.keySet()) {
             String text = texts.get(name);
@@ -141,7 +112,7 @@ final class Sentences {
             for (int i = 0; i < text.length(); i++) {
                 rest.append(quoted.get(name).get(i) ? ' ' : text.charAt(i));
             }
-            boolean all = !rest.toString().matches("(?s).*[A-Za-z0-9].*") || name.equals("What it is");
+            boolean all = !rest.toString().matches("(?s).*[A-Za-z0-9].*");
             due.holds(name + " is tested whole, but for: " + rest.toString().trim().replaceAll(" +", " "), all);
         }
         due.end();

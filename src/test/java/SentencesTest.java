@@ -9,6 +9,7 @@ import java.nio.file.Path;
 public final class SentencesTest {
     public static void main(String[] args) throws IOException {
         Sentences document = new Sentences(Files.readString(Path.of(args[0], "..", "shared", "DOC.md")));
+        FirstSentences.tell(document);
         RoofSentences.tell(document);
         LayingSentences.tell(document);
         WaterSentences.tell(document);
